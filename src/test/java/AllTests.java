@@ -1,0 +1,25 @@
+import java.nio.file.Path;
+
+/** Runs the project's tests; the arguments are the paths of DOC.md and of DateHem.java. */
+public final class AllTests {
+    private AllTests() {
+    }
+
+    public static void main(String[] args) throws Exception {
+        InputTests.run();
+        DescriptionTests.run();
+        ScriptTests.run();
+        SeamTests.run();
+        TimeTests.run();
+        SpotTests.run();
+        LabelTests.run();
+        ExplanationTests.run();
+        MeasureTests.run();
+        ChangeTests.run();
+        UndoTests.run();
+        OutputTests.run();
+        FaceTests.run(Path.of(args[0]), Path.of(args[1]));
+        RandomTests.run();
+        Check.finish();
+    }
+}
