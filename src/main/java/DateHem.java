@@ -618,8 +618,6 @@ public final class DateHem {
             }
             offset = position;
             word = Words.NO_WORD;
-            number = 0;
-            sign = 0;
             if (position >= length) {
                 kind = END;
             } else if (isLetter(bytes[position])) {
@@ -648,16 +646,13 @@ public final class DateHem {
                 value = value * 10 + bytes[position] - '0';
                 position++;
             }
-            boolean fits = position - offset <= MAX_DIGITS;
-            kind = fits ? NUMBER : ALIEN;
-            number = fits ? value : 0;
+            kind = position - offset <= MAX_DIGITS ? NUMBER : ALIEN;
+            number = value;
         }
 
         private void takeSign() {
-            int found = bytes[position];
-            boolean known = found == ';' || found == '(' || found == ')';
-            kind = known ? SIGN : ALIEN;
-            sign = known ? found : 0;
+            sign = bytes[position];
+            kind = sign == ';' || sign == '(' || sign == ')' ? SIGN : ALIEN;
             position++;
         }
 
@@ -1381,9 +1376,7 @@ public final class DateHem {
                 if (in.number < MIN_WIDTH || in.number > MAX_WIDTH || sum > MERIDIANS) {
                     return in.fail(2);
                 }
-                if (gore < Cloth.MAX_GORES) {
-                    cloth.addGore(in.number);
-                }
+                cloth.addGore(in.number);
             }
             return in.fail(4);
         }

@@ -18,6 +18,7 @@ public final class AllTests {
         ChangeTests.run();
         UndoTests.run();
         OutputTests.run();
+        FullTests.run();
         FaceTests.run(Path.of(args[0]), Path.of(args[1]));
         RandomTests.run();
         Check.finish();

@@ -63,13 +63,41 @@ final class ChangeTests {
         Check.due("one less", hem.spotCount(), 9);
         Check.due("input after undo()", Texts.inputLength(hem), 1);
         Check.due("added again", add(hem, travels, "j", 0, 0), 9);
-        DateHem second = Texts.halves("person a 0 0; walk a east 5;");
-        second.step(0, 1);
-        Texts.type(second, "globe 180 180;").readText();
-        add(second, travels, "z", 0, 350);
-        Check.due("no degrees at first", second.degreesLeft(0), 0);
-        Check.due("no crossings at first", second.crossingsOf(0), 0);
-        Check.due("day", second.dayOf(0), -1);
+        inAnothersPlace(travels);
+    }
+
+    /** A spot that comes where another one was has nothing of it. */
+    private static void inAnothersPlace(boolean travels) {
+        DateHem hem = new DateHem();
+        add(hem, true, "a", 0, 179);
+        hem.walk(0, 0, 5);
+        hem.pass(1);
+        hem.walk(0, 1, 9);
+        Check.due("crossings of the first", hem.crossingsOf(0), 1);
+        hem.meridianAfter(0, 1);
+        hem.undo();
+        hem.undo();
+        hem.undo();
+        hem.undo();
+        hem.step(add(hem, true, "a", 0, 179), 0);
+        hem.walk(0, 0, 7);
+        hem.meridianAfter(0, 0);
+        Texts.type(hem, "globe 180 180;").readText();
+        add(hem, travels, "z", 0, 350);
+        Check.due("no degrees at first", hem.degreesLeft(0), 0);
+        Check.due("no crossings at first", hem.crossingsOf(0), 0);
+        Check.due("day", hem.dayOf(0), -1);
+        Check.due("told", told(hem, travels), "0 0");
+    }
+
+    /** What a described spot has of the one that was foretold in its place before. */
+    private static String told(DateHem hem, boolean travels) {
+        hem.undo();
+        hem.step(add(hem, true, "a", 0, 179), 0);
+        hem.walk(0, 0, 7);
+        hem.meridianAfter(0, 0);
+        Texts.type(hem, "globe 180 180;" + (travels ? "person" : "town") + " z 0 350;").readText();
+        return hem.degreesLeft(0) + " " + hem.crossingsOf(0);
     }
 
     private static void diariesAtFirst() {
@@ -114,6 +142,13 @@ final class ChangeTests {
         hem.undo();
         Check.due("after undo()", addLabel(hem, "ab", 8, 50), 7);
         Check.due("the new one", hem.labelLast(7), 63);
+        DateHem torn = Texts.globe("globe 100 260; label a 4 98; rip 1;");
+        Texts.type(torn, "globe 180 180;").readText();
+        addLabel(torn, "a", 4, 98);
+        Check.due("in a torn one's place", torn.isLabelTorn(0), false);
+        Texts.type(torn, "globe 100 260; label a 4 98; rip 1;").readText();
+        Texts.type(torn, "globe 180 180; label a 4 98;").readText();
+        Check.due("told in a torn one's place", torn.isLabelTorn(0), false);
     }
 
     private static void hems() {

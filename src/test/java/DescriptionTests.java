@@ -178,6 +178,8 @@ final class DescriptionTests {
         statement("person a 8 360;", "2 at 25");
         statement("label a 9 0;", "2 at 22");
         statement("label a 4 360;", "2 at 24");
+        statement("label a 4 359;", "5 at 24");
+        statement("hem 0 359;", "5 at 20");
         statement("hem 9 0;", "2 at 18");
         statement("hem 8 360;", "2 at 20");
         statement("sew 2 1;", "2 at 18");

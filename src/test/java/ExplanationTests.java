@@ -38,6 +38,10 @@ final class ExplanationTests {
         Check.throwsArgument("hemObstacle(-1, 1)", () -> hem.hemObstacle(-1, 1));
         Check.throwsArgument("hemObstacle(0, 360)", () -> hem.hemObstacle(0, 360));
         Check.throwsArgument("hemObstacle(0, -1)", () -> hem.hemObstacle(0, -1));
+        hem.moveHem(0, 240);
+        Check.due("band 1 beside band 0", hem.hemObstacle(1, 179), 2);
+        hem.moveHem(8, 240);
+        Check.due("band 7 beside band 8", hem.hemObstacle(7, 179), 2);
         DateHem poor = Texts.halves("thread 3;");
         Check.due("15 for 3", poor.hemObstacle(4, 195), 0);
         Check.due("16 for 3", poor.hemObstacle(4, 196), 4);
@@ -102,6 +106,7 @@ final class ExplanationTests {
         Check.due("from the hem on", label(hem, "a", 4, 180), 0);
         Check.due("up to the hem", label(hem, "a", 4, 177), 0);
         Check.due("over a torn seam", label(hem, "a", 4, 98), 5);
+        Check.due("from before a torn seam on", label(hem, "a", 4, 99), 5);
         Check.due("up to a torn seam", label(hem, "a", 4, 97), 0);
         Check.due("from a torn seam on", label(hem, "a", 4, 100), 0);
         Check.due("in any band", label(hem, "a", 0, 95), 5);

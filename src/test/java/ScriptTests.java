@@ -9,6 +9,7 @@ final class ScriptTests {
         stopsAtRefusal();
         stopsAtForty();
         undoable();
+        oneAfterAnother();
         Check.part("promise 5, errors");
         errors();
         depthAndCount();
@@ -92,6 +93,17 @@ final class ScriptTests {
         Check.due("clock after an error", hem.clock(), 1);
         Check.due("undo() after an error", hem.undo(), 0);
         Check.due("clock", hem.clock(), 0);
+    }
+
+    private static void oneAfterAnother() {
+        DateHem hem = new DateHem();
+        for (int n = 0; n < 3; n++) {
+            Check.due("20 commands", runIn(hem, "pass 1;".repeat(20)), 20);
+        }
+        Check.throwsArgument("left open", () -> runIn(hem, "repeat 2 (repeat 2 (pass 1;"));
+        Check.due("after one left open", runIn(hem, "repeat 2 (pass 1;);"), 2);
+        Check.throwsArgument("closed without being open", () -> runIn(hem, "pass 1;)"));
+        Check.due("clock()", hem.clock(), 62);
     }
 
     private static void error(String text, String want) {

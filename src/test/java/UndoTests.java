@@ -10,6 +10,7 @@ final class UndoTests {
     static void run() {
         Check.part("promise 54");
         each();
+        crossingsComeBack();
         sixAreRemembered();
         whatUndoLeaves();
         refusedCalls();
@@ -43,9 +44,22 @@ final class UndoTests {
         undone("rip", hem -> hem.rip(1));
         undone("step", hem -> hem.step(0, 0));
         undone("walk", hem -> hem.walk(0, 1, 3));
+        undone("step over the hem", hem -> Texts.type(hem, "hem 4 144; step 0 0;").runScript());
         undone("walk elsewhere", hem -> hem.walk(0, 1, 44));
         undone("pass", hem -> hem.pass(200));
         undone("runScript", hem -> Texts.type(hem, "pass 1; rip 0; sew 1 5; step 0 1;").runScript());
+    }
+
+    private static void crossingsComeBack() {
+        DateHem hem = Texts.halves("person p 4 179;");
+        hem.step(0, 0);
+        hem.step(0, 1);
+        Check.due("crossings", hem.crossingsOf(0), 2);
+        hem.undo();
+        Check.due("crossings after undo()", hem.crossingsOf(0), 1);
+        Check.due("meridian after undo()", hem.meridianOf(0), 180);
+        hem.undo();
+        Check.due("crossings after both", hem.crossingsOf(0), 0);
     }
 
     private static void sixAreRemembered() {
