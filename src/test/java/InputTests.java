@@ -82,6 +82,18 @@ final class InputTests {
         Check.throwsArgument("8 of 7", () -> hem.truncate(8));
         Check.due("addTown with it", hem.addTown(1, 2), 0);
         Check.due("name", Texts.nameOf(hem, 0), "aaaaaaa");
+        Check.due("letters cut off", cutError("globe 180 180;passage", 18), "1 at 18");
+        Check.due("digits cut off", cutError("globe 180 1800", 13), "1 at 13");
+        Check.due("sign cut off", cutError("globe 180 180;", 13), "1 at 13");
+        Check.due("blank cut off", cutError("globe  180 180;", 6), "1 at 6");
+    }
+
+    /** The error of a description of which only the first bytes are left in the buffer. */
+    private static String cutError(String text, int length) {
+        DateHem hem = Texts.type(new DateHem(), text);
+        hem.truncate(length);
+        Check.throwsArgument("a cut text", () -> hem.readText());
+        return hem.errorCode() + " at " + hem.errorOffset();
     }
 
     private static void emptied() {
