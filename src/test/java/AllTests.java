@@ -19,6 +19,16 @@ public final class AllTests {
         UndoTests.run();
         OutputTests.run();
         FullTests.run();
+        GlobeLimitTests.run();
+        TravelLimitTests.run();
+        LabelLimitTests.run();
+        TextLimitTests.run();
+        ScriptLimitTests.run();
+        UndoLimitTests.run();
+        PromiseLimitTests.run();
+        AnswerLimitTests.run();
+        RangeTests.run();
+        RefusalTests.run();
         FaceTests.run(Path.of(args[0]), Path.of(args[1]));
         RandomTests.run();
         Check.finish();
