@@ -30,7 +30,11 @@ public final class AllTests {
         RangeTests.run();
         RefusalTests.run();
         FaceTests.run(Path.of(args[0]), Path.of(args[1]));
+        RoomTests.run();
         RandomTests.run();
+        Check.part("what is tested");
+        Check.dueForAll("promise", 58);
+        Check.dueForAll("section", 8);
         Check.finish();
     }
 }

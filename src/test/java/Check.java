@@ -1,3 +1,8 @@
+import java.util.Set;
+import java.util.TreeSet;
+import java.util.regex.Matcher;
+import java.util.regex.Pattern;
+
 /** Counts the checks of all tests and prints those that fail. */
 final class Check {
     interface Call {
@@ -7,12 +12,26 @@ final class Check {
     private static int passed = 0;
     private static int failed = 0;
     private static String part = "";
+    private static final Set<String> tested = new TreeSet<>();
+    private static final Pattern TOLD = Pattern.compile("(promise|section)s? (\\d+)(?: and (\\d+))?");
 
     private Check() {
     }
 
+    /** The name tells the promises or sections of the document that the next checks are for. */
     static void part(String name) {
         part = name;
+        Matcher told = TOLD.matcher(name);
+        while (told.find()) {
+            tested.add(told.group(1) + " " + told.group(2));
+            tested.add(told.group(1) + " " + told.group(3));
+        }
+    }
+
+    static void dueForAll(String kind, int count) {
+        for (int number = 1; number <= count; number++) {
+            due("there is a test of " + kind + " " + number, tested.contains(kind + " " + number), true);
+        }
     }
 
     static void due(String what, Object got, Object want) {

@@ -153,6 +153,11 @@ final class ScriptLimitTests {
         error(full + "rop", "1 at 188");
         error(full + ";", "1 at 188");
         error(full + "repeatedly", "1 at 188");
+        error("repeat 1 (repeat 1 (rip repeat", "1 at 24");
+        error("repeat 1 (repeat 1 (rip 1 repeat", "1 at 26");
+        error("rip 9;".repeat(29) + "rip 9 rip", "1 at 180");
+        error("rip 9;".repeat(29) + "rip rip", "1 at 178");
+        error("repeat repeat", "1 at 7");
         Check.part("section 7, parsing stops at the first erroneous token");
         error("repeat 0 (rip x;);", "2 at 7");
         error("rip 1 1; repeat 0 ();", "1 at 6");

@@ -281,6 +281,13 @@ final class TextLimitTests {
         statement("hem 4 360;", 2, 6);
         statement("rip 1;rip 2;", 2, 10);
         statement("walk abcdefghi", 1, 5);
+        statement("walk 9999 east 1;", 1, 5);
+        String ten = "town a 0 0;town b 0 0;town c 0 0;town d 0 0;town e 0 0;town f 0 0;town g 0 0;"
+                + "town h 0 0;town i 0 0;town j 0 0";
+        statement(ten + " town", 1, 110);
+        statement(ten + ";town", 4, 110);
+        statement(ten + ";rip town", 1, 114);
+        statement("label a 4 358", 5, 10);
         statement("town a 0 0;town abcdefghi 0 0;", 1, 16);
     }
 
