@@ -1,11 +1,13 @@
 import java.nio.file.Path;
 
-/** Runs the project's tests; the arguments are the paths of DOC.md and of DateHem.java. */
+/** Runs the project's tests; the arguments are the paths of DOC.md and of the project. */
 public final class AllTests {
     private AllTests() {
     }
 
     public static void main(String[] args) throws Exception {
+        Path document = Path.of(args[0]);
+        Path project = Path.of(args[1]);
         InputTests.run();
         DescriptionTests.run();
         ScriptTests.run();
@@ -29,7 +31,10 @@ public final class AllTests {
         AnswerLimitTests.run();
         RangeTests.run();
         RefusalTests.run();
-        FaceTests.run(Path.of(args[0]), Path.of(args[1]));
+        WholeTests.run();
+        AgreementTests.run();
+        FaceTests.run(document, project.resolve("src/main/java/DateHem.java"));
+        ReadmeTests.run(project.resolve("README.md"), project.resolve("src/test/java"));
         RoomTests.run();
         RandomTests.run();
         Check.part("what is tested");

@@ -4,6 +4,8 @@ import java.lang.reflect.Method;
 import java.lang.reflect.Modifier;
 import java.nio.file.Files;
 import java.nio.file.Path;
+import java.util.ArrayList;
+import java.util.List;
 import java.util.Set;
 import java.util.TreeSet;
 import java.util.regex.Matcher;
@@ -28,6 +30,10 @@ final class FaceTests {
         Check.due("NONE", Modifier.toString(DateHem.class.getField("NONE").getModifiers()),
                 "public static final");
         insides();
+        Check.part("the public face, what it says ahead of the calls");
+        Check.due("how many", headingsToldBy(Files.readString(document)).size(), 9);
+        Check.due("headings", headingsOf(Files.readString(program)),
+                headingsToldBy(Files.readString(document)));
         Check.part("the language");
         words(Files.readString(program));
     }
@@ -49,6 +55,36 @@ final class FaceTests {
         while (line.find()) {
             String types = line.group(2).replaceAll(" \\w+(,|$) ?", "$1");
             told.add(line.group(1) + "(" + types + ")" + line.group(3).replace(", ", ","));
+        }
+        return told;
+    }
+
+    /** The headings that the document tells, each with the calls behind it. */
+    private static List<String> headingsToldBy(String document) {
+        List<String> told = new ArrayList<>();
+        Matcher line = Pattern.compile("(?m)^Ahead of the calls (.*) the interface says: (---- .*)\\.$")
+                .matcher(document);
+        while (line.find()) {
+            told.add(line.group(2) + ": " + line.group(1).replace("`", ""));
+        }
+        return told;
+    }
+
+    private static List<String> headingsOf(String program) {
+        List<String> told = new ArrayList<>();
+        String heading = "";
+        List<String> calls = new ArrayList<>();
+        Matcher line = Pattern.compile("(?m)^    (?:// (---- .*)|public \\w+ (\\w+)\\(.*)$").matcher(program);
+        while (line.find()) {
+            if (line.group(1) == null) {
+                calls.add(line.group(2));
+                continue;
+            }
+            if (!calls.isEmpty()) {
+                told.add(heading + ": " + String.join(", ", calls));
+            }
+            heading = line.group(1);
+            calls.clear();
         }
         return told;
     }
