@@ -47,6 +47,13 @@ final class ScriptLimitTests {
         String late = " ".repeat(594) + "rip 0;";
         error(late, "fine");
         error(late.replace(';', ' '), "1 at 600");
+        Check.part("section 7, a word or number that is too long where a sign is due, after others");
+        error("rip 9;rip 9 abcdefghi", "1 at 12");
+        error("rip 9;rip 9 00001", "1 at 12");
+        error("rip 9;rip 9 00001 rip 9;", "1 at 12");
+        error("repeat 1 (repeat 1 00001 rip 9;););", "1 at 19");
+        error("repeat 1 (repeat 1 abcdefghi rip 9;););", "1 at 19");
+        error("repeat 1 (repeat 1 ();) abcdefghi", "1 at 24");
         Check.part("section 7, code 1 at the length of a text that ends too early");
         String[] parts = {"repeat", " 2", "(", "repeat", " 3", " (", "hem", " 1", " 2", ";", ")", " ;",
             "walk", " 1", " 2", " 3", ";", ")"};

@@ -66,6 +66,14 @@ final class TextLimitTests {
         statement("person a 0 0;walk a easteast 1;", 1, 20);
         statement("person a 0 0;walk a easteaste 1;", 1, 20);
         statement("person a 0 0;walk a eas 1;", 1, 20);
+        Check.part("section 6, a word or number that is too long where a sign is due, after others");
+        statement("rip 0 abcdefghi", 1, 6);
+        statement("rip 0 abcdefghi;", 1, 6);
+        statement("rip 0 00001", 1, 6);
+        statement("rip 0;rip 1 00001 thread 9;", 1, 12);
+        DateHem twice = Texts.halves("");
+        Check.throwsArgument("among the widths", () -> Texts.type(twice, "globe 180 180 00010").readText());
+        Check.due("the error there", twice.errorCode() + " at " + twice.errorOffset(), "1 at 14");
         Check.part("section 6, a name is any word");
         fine("town town 0 0;town globe 0 0;person east 0 0;walk east east 1;label hem 0 0;");
     }
